@@ -68,6 +68,11 @@ public final class AllTintingsTest {
     private static void tintings() {
         for (int tints = 0; tints <= 10; tints++) {
             long k = tints;
+            for (int country = 0; country < Maps.COUNTRIES; country++) {
+                FourTints alone = new FourTints();
+                alone.paint(5, 5, country);
+                bothDue("country " + country + " alone", alone, tints, k);
+            }
             bothDue("the sea", new FourTints(), tints, 1);
             bothDue("ten apart", Maps.of(Maps.APART), tints, power(k, 10));
             bothDue("a ring of five", Maps.of(Maps.RING), tints, ring(k, 5));
