@@ -34,6 +34,7 @@ public final class AllTintingsTest {
         CHECK.due("22: more than are all neighbours", Maps.of(Maps.WHEEL).fewestTints(), 4);
         CHECK.due("22: five that are all neighbours", Maps.of(ALL_FIVE).fewestTints(), 5);
         CHECK.due("22: two halves", Maps.of("111222", "111222", "111222", "333333", "222111", "222111").fewestTints(), 3);
+        CHECK.due("22: ten that are all neighbours", Maps.of(Maps.ALL_TEN).fewestTints(), 10);
         map.tint(3, 7);
         String before = Maps.stateOf(map);
         map.fewestTints();
@@ -59,6 +60,10 @@ public final class AllTintingsTest {
         CHECK.due("23: a row", row.tintWithFewest(), 2);
         CHECK.due("23: a row", Maps.tintsOf(row), "1 2 2 1 1 2 0 0 0 0");
 
+        FourTints ten = Maps.of(Maps.ALL_TEN);
+        CHECK.due("23: ten that are all neighbours", ten.tintWithFewest(), 10);
+        CHECK.due("23: ten that are all neighbours", Maps.tintsOf(ten), "1 2 3 4 5 6 7 8 9 10");
+
         FourTints late = Maps.of("5798..", "......", "2.....", "......", "......", "......");
         CHECK.due("23: the lesser tint for the first one", late.tintWithFewest(), 2);
         CHECK.due("23: the lesser tint for the first one", Maps.tintsOf(late), "0 0 1 0 0 1 0 2 2 1");
@@ -78,6 +83,7 @@ public final class AllTintingsTest {
             bothDue("a ring of five", Maps.of(Maps.RING), tints, ring(k, 5));
             bothDue("a wheel", Maps.of(Maps.WHEEL), tints, k * ring(k - 1, 5));
             bothDue("all five", Maps.of(ALL_FIVE), tints, k * (k - 1) * (k - 2) * (k - 3) * (k - 4));
+            bothDue("ten that are all neighbours", Maps.of(Maps.ALL_TEN), tints, tints == 10 ? 3628800 : 0);
             bothDue("ten in a row", Maps.of("012345", ".....6", "....87", "....9.", "......", "......"), tints, k * power(k - 1, 9));
             bothDue("a ring of ten", Maps.of("012345", "9....6", "988887", "......", "......", "......"), tints, ring(k, 10));
             bothDue("a ring of four and one apart", Maps.of("12....", "43....", "......", "...7..", "......", "......"), tints, k * ring(k, 4));

@@ -168,6 +168,11 @@ public final class CountriesTest {
         CHECK.due("13: a ring of two around two", Maps.of("111111", "122223", "124423", "124423", "133333", "111111").allNeighbours(), 3);
         CHECK.due("13: four", Maps.of("1111..", "1022..", "1332..", "1111..", "......", "......").allNeighbours(), 4);
         CHECK.due("13: five, with pieces", Maps.of("1213..", "..45..", "14.25.", "34.15.", "2.....", "3524..").allNeighbours(), 5);
+        FourTints ten = Maps.of(Maps.ALL_TEN);
+        CHECK.due("13: ten", ten.allNeighbours(), 10);
+        CHECK.due("10: nine neighbours", ten.neighbours(9), 9);
+        ten.paint(2, 0, 9);
+        CHECK.due("13: two of the ten are no neighbours", ten.allNeighbours(), 9);
     }
 
     private static void wrongCountries() {

@@ -30,6 +30,15 @@ final class Maps {
         "544433",
         "544433"};
 
+    /** Ten countries, all neighbours of one another. */
+    static final String[] ALL_TEN = {
+        "295835",
+        "791740",
+        "548069",
+        "266373",
+        "089162",
+        "124465"};
+
     private Maps() {
     }
 

@@ -237,6 +237,11 @@ public final class TintsTest {
         CHECK.due("21: the same again", wheel.tintInOrder(false), 4);
         CHECK.due("21: the wheel again", Maps.tintsOf(wheel), "1 2 3 2 3 4 7 0 2 10");
 
+        FourTints ten = Maps.of(Maps.ALL_TEN);
+        CHECK.due("21: ten that are all neighbours", ten.tintInOrder(true), 10);
+        CHECK.due("21: ten that are all neighbours", Maps.tintsOf(ten), "1 2 3 4 5 6 7 8 9 10");
+        CHECK.due("18: the last one", ten.leastFree(9), 10);
+
         FourTints row = Maps.of("135420", "......", "......", "......", "......", "......");
         CHECK.due("21: a row by numbers", row.tintInOrder(false), 3);
         CHECK.due("21: a row by numbers", Maps.tintsOf(row), "1 1 2 2 1 3 0 0 0 0");
