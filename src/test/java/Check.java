@@ -3,9 +3,15 @@ final class Check {
     private final String test;
     private int looked = 0;
     private int wrong = 0;
+    private String sentence = "";
 
     Check(String test) {
         this.test = test;
+    }
+
+    /** Begins the test of one sentence of the document: what is not as due is told behind these words. */
+    void sentence(String words) {
+        sentence = words + " | ";
     }
 
     void due(String call, long got, long want) {
@@ -55,7 +61,7 @@ final class Check {
     private void tell(String text) {
         wrong++;
         if (wrong <= 40) {
-            System.out.println(test + ": " + text);
+            System.out.println(test + ": " + sentence + text);
         }
     }
 }
