@@ -1,9 +1,13 @@
 import java.io.IOException;
+import java.lang.reflect.Method;
 import java.nio.file.Files;
 import java.nio.file.Path;
 import java.util.List;
 
-/** The example in README.md: each of its calls answers what is told there, and each call told there is made here. */
+/**
+ * The example in README.md: each of its calls answers what is told there, each call told there is made
+ * here, and every call of the face is told there.
+ */
 public final class ReadmeTest {
     private static final Check CHECK = new Check("ReadmeTest");
 
@@ -29,6 +33,11 @@ public final class ReadmeTest {
         throwing("map.tint(1, 11)", IllegalArgumentException.class, map, () -> map.tint(1, 11));
         throwing("map.chain(3, 1)", IllegalStateException.class, map, () -> map.chain(3, 1));
         CHECK.due("how many calls README.md tells", lines.size(), made);
+        for (Method call : FourTints.class.getMethods()) {
+            if (call.getDeclaringClass() == FourTints.class) {
+                CHECK.due("README.md tells of " + call.getName(), isTold(call.getName()), true);
+            }
+        }
     }
 
     private void paintAndAsk(FourTints map) {
@@ -38,8 +47,13 @@ public final class ReadmeTest {
         answered("map.countryAt(0, 0)", map.countryAt(0, 0));
         answered("map.countries()", map.countries());
         answered("map.area(1)", map.area(1));
+        answered("map.pieces(1)", map.pieces(1));
+        answered("map.largestPiece(1)", map.largestPiece(1));
+        answered("map.scattered()", map.scattered());
         answered("map.neighbours(1)", map.neighbours(1));
         answered("map.border(1, 2)", map.border(1, 2));
+        answered("map.enclosed(1)", map.enclosed(1));
+        answered("map.allNeighbours()", map.allNeighbours());
     }
 
     private void tint(FourTints map) {
@@ -47,9 +61,10 @@ public final class ReadmeTest {
         answered("map.tint(2, 3)", map.tint(2, 3));
         answered("map.conflicts()", map.conflicts());
         answered("map.leastFree(1)", map.leastFree(1));
+        answered("map.chain(1, 4)", map.chain(1, 4));
         answered("map.exchange(1, 4)", map.exchange(1, 4));
+        answered("map.tintOf(2)", map.tintOf(2));
         CHECK.due("tintOf(1) behind exchange(1, 4)", map.tintOf(1), 4);
-        CHECK.due("tintOf(2) behind exchange(1, 4)", map.tintOf(2), 4);
         answered("map.isTinted()", map.isTinted());
         answered("map.tintInOrder(false)", map.tintInOrder(false));
     }
@@ -72,6 +87,10 @@ public final class ReadmeTest {
     private void throwing(String call, Class<? extends RuntimeException> exception, FourTints map, Runnable run) {
         CHECK.dueThrow(call, map, exception, run);
         CHECK.due("README.md tells of " + call, told(), call + " -> throws " + exception.getSimpleName());
+    }
+
+    private boolean isTold(String name) {
+        return lines.stream().anyMatch(line -> line.startsWith("map." + name + "("));
     }
 
     /** The next call of the example with the answer behind it, up to the first sign that explains it. */
